@@ -11,7 +11,7 @@ public final class AgainstModelTest {
     }
 
     public static void main(String[] args) {
-        int runs = args.length > 0 ? Integer.parseInt(args[0]) : 60;
+        int runs = args.length > 0 ? Integer.parseInt(args[0]) : 24;
         int calls = 0;
         for (int run = 0; run < runs; run++) {
             seed = 77 + run;

@@ -1517,7 +1517,7 @@ public final class SkewRings {
         }
 
         /** What is left after each prime is shorter: depth stays below the degree asked first. */
-        int waysFrom(Poly x, int depth) {
+        private int waysFrom(Poly x, int depth) {
             if (x.top < 2 || depth >= MOST_ASKED) {
                 return 1;
             }

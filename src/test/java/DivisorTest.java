@@ -4,6 +4,7 @@ public final class DivisorTest {
 
     public static void main(String[] args) {
         divisors();
+        divisorsBySearch();
         primes();
         factors();
         factorsEverywhere();
@@ -73,6 +74,34 @@ public final class DivisorTest {
         SkewRings s = Due.fresh(3, "1,0,0,0,1");
         int[] want = {15, 35, 15};
         for (int d = 1; d <= 3; d++) due.is("P43 t^4 + 1 over 16: parts of four places", s.divisors(0, d), want[d - 1]);
+    }
+
+    /** By remainder() for all of a degree by ORDER: how many leave nothing, and the first of these. */
+    private static void divisorsBySearch() {
+        for (int n = 0; n < 90; n++) {
+            int f = n % 3;
+            int q = new int[] {4, 8, 9}[f];
+            SkewRings x = Due.fresh(f, n * 3 % q + "," + n * 5 % q + "," + n * 7 % q + "," + (1 + n % (q - 1)), (n + 1) % q + ",1");
+            if (n % 2 == 1 && f == 0) x.multiplies(0, 1, 0);
+            for (int d = 1; d <= 3; d++) {
+                int most = d == 1 ? q : d == 2 ? q * q : f == 0 ? q * q * q : 0;
+                String first = "";
+                int many = 0;
+                for (int code = 0; code < most; code++) {
+                    String b = d == 1 ? code + ",1" : d == 2 ? code % q + "," + code / q + ",1" : code % q + "," + code / q % q + "," + code / q / q + ",1";
+                    Due.put(x, 2, b);
+                    x.remainder(0, 2, 0, 3);
+                    if (x.degree(3) >= 0) continue;
+                    if (many == 0) first = b;
+                    many++;
+                }
+                if (most == 0) continue;
+                due.is("P43 " + Due.at(x, 0) + " by search, DEGREE " + d, x.divisors(0, d), many);
+                StringBuilder told = new StringBuilder();
+                for (int k = 0; k < x.count(6); k++) told.append(k > 0 ? "," : "").append(Due.rowAt(x, k));
+                due.holds("P43 " + Due.at(x, 0) + " first by ORDER: " + told + ", due is " + first, told.toString().equals(first));
+            }
+        }
     }
 
     private static void primes() {
@@ -164,6 +193,9 @@ public final class DivisorTest {
         due.is("P47 a number", x.ways(1), 1);
         due.is("P47 2 t^4", x.ways(2), 1);
         due.is("P47 t + 2", x.ways(3), 1);
+        SkewRings p = Due.fresh(0, "1,1,0,1", "1,0,1,0,1");
+        due.is("P47 a prime of DEGREE 3", p.ways(0), 1);
+        due.is("P47 1 + t t + t^4: quadratic primes alone", p.ways(1), 5);
         // Three ROOTS; behind each is left (t t + 1)(t + a), which has one ROOT of three, .. : by search.
         due.is("P47 t^4 + 1", x.ways(4), waysBySearch(x, 4));
         SkewRings s = Due.fresh(3, "1,0,0,0,1");
@@ -340,6 +372,17 @@ public final class DivisorTest {
         due.row("P52 t + 3 over 9: norm 2 of it", n, 1, 1);
         due.is("P52 t t + 5: the norm of y + 5", n.bound(2), 2);
         due.row("P52 t t + 5", n, n.norm(5, 2), n.plus(5, n.map(5, 1)), 1);
+        SkewRings h = Due.fresh(0, "0");
+        int eights = 0;
+        for (int i = 0; i < 40; i++) {
+            Due.put(h, 0, "1," + i % 4 + "," + i / 4 % 4 + "," + i % 3 + ",2," + i % 2 + ",0,3,1");
+            if (h.bound(0) != 8) continue;
+            eights++;
+            due.is("P52 DEGREE 8: numbers of the ROW", h.count(6), 9);
+            due.is("P52 DEGREE 8: MONIC", Due.rowAt(h, 8), 1);
+            due.is("P52 DEGREE 8: at t^0 what a0 has as norm", Due.rowAt(h, 0), h.norm(h.number(0, 0), 2));
+        }
+        due.holds("P52 there are some of DEGREE 8", eights > 0);
         // Of DEGREE 8 over 16 it goes up to t^32: what it DIVIDES is told by the ROW, and by what t^4 leaves.
         SkewRings s = Due.fresh(3, "7,3,0,9,1,1,2,14,1");
         int d = s.bound(0);

@@ -155,6 +155,7 @@ public final class FieldTest {
     private static void classes() {
         for (int f = 0; f < 4; f++) {
             SkewRings x = Due.fresh(f);
+            x.shares(0, 1);
             due.is("P9 field " + f, x.classes(), f == 2 ? 3 : 2);
             if (f == 2) due.row("P9", x, 0, 1, 3); else due.row("P9", x, 0, 1);
         }

@@ -1,9 +1,15 @@
-import java.util.NoSuchElementException;
+import java.util.ArrayList;
+import java.util.List;
 
-/** Long runs of calls, the same on the class and on the model: answers, ROW, PLACES and FACTORS after each. */
+/** Runs of calls, the same on the class and on the model: answers, the ROW and the PLACES after each, all at the end. */
 public final class AgainstModelTest {
     private static long seed;
     private static int wrong = 0;
+    /** A step with all of its looks, and what stateDiffers() asks. */
+    private static final int LAST_LOOK = 60 + 140;
+    private static int calls;
+    private static List<Long> rowSeen;
+    private static final int[][] placesSeen = new int[6][];
 
     private static int below(int n) {
         seed = seed * 6364136223846793005L + 1442695040888963407L;
@@ -11,38 +17,73 @@ public final class AgainstModelTest {
     }
 
     public static void main(String[] args) {
-        int runs = args.length > 0 ? Integer.parseInt(args[0]) : 24;
-        int calls = 0;
+        int runs = args.length > 0 ? Integer.parseInt(args[0]) : 400;
+        int steps = 0;
         for (int run = 0; run < runs; run++) {
             seed = 77 + run;
-            calls += play(run);
+            steps += play(run);
         }
-        System.out.println(wrong == 0 ? calls + " calls answer as the model does" : wrong + " runs differ");
+        System.out.println(wrong == 0 ? steps + " steps answer as the model does" : wrong + " runs differ");
         if (wrong > 0) System.exit(1);
     }
 
+    /** An object is used for at most 512 calls: what the last look at all of it needs is kept back. */
     private static int play(int run) {
         SkewRings x = new SkewRings();
         Model y = new Model();
         int kind = run % 4;
         StringBuilder log = new StringBuilder();
+        calls = 0;
+        rowSeen = List.of();
         if (kind > 0) compare(run, log.append("field ").append(kind), x.field(kind), y.field(kind), x, y);
-        for (int n = 0; n < 500; n++) {
+        int steps = 0;
+        while (calls < 512 - LAST_LOOK && steps < 512) {
             int before = wrong;
             step(run, log, x, y);
-            if (wrong > before) return n;
+            if (wrong > before) return steps;
+            steps++;
         }
-        return 500;
+        report(run, log, stateDiffers(x, y));
+        return steps;
     }
 
+    private static void report(int run, StringBuilder log, String differs) {
+        if (differs == null) return;
+        wrong++;
+        int from = Math.max(0, log.length() - 900);
+        System.out.println("run " + run + ": .." + log.substring(from) + " " + differs);
+    }
+
+    /** Looks at the answer, and at the ROW and the PLACES that the model has told anew. */
     private static void compare(int run, StringBuilder log, int got, int want, SkewRings x, Model y) {
+        calls++;
         log.append(" = ").append(got).append("; ");
-        String differs = got != want ? "due is " + want : stateDiffers(x, y);
-        if (differs != null) {
-            wrong++;
-            int from = Math.max(0, log.length() - 900);
-            System.out.println("run " + run + ": .." + log.substring(from) + " " + differs);
+        String differs = got != want ? "due is " + want : rowDiffers(x, y);
+        for (int k = 0; k < 6 && differs == null; k++) {
+            if (y.places[k] != placesSeen[k]) differs = placeDiffers(x, y, k);
+            placesSeen[k] = y.places[k];
         }
+        report(run, log, differs);
+    }
+
+    private static String rowDiffers(SkewRings x, Model y) {
+        calls++;
+        if (x.count(6) != y.row.size()) return "count(6) is " + x.count(6) + ", due " + y.row.size();
+        if (y.row.equals(rowSeen)) return null;
+        rowSeen = new ArrayList<>(y.row);
+        for (int i = 0; i < y.row.size(); i++) {
+            calls++;
+            if (x.row(i) != y.row.get(i)) return "row(" + i + ") is " + x.row(i) + ", due " + y.row.get(i);
+        }
+        return null;
+    }
+
+    private static String placeDiffers(SkewRings x, Model y, int i) {
+        for (int k = 0; k < 9; k++) {
+            calls++;
+            if (x.number(i, k) != y.number(i, k)) return "number(" + i + ", " + k + ") is " + x.number(i, k) + ", due " + y.number(i, k);
+        }
+        return null;
     }
 
     private static String stateDiffers(SkewRings x, Model y) {
@@ -50,21 +91,19 @@ public final class AgainstModelTest {
             if (x.count(what) != y.count(what)) return "count(" + what + ") is " + x.count(what) + ", due " + y.count(what);
         }
         for (int i = -1; i <= y.row.size(); i++) {
-            long got = Long.MIN_VALUE;
-            try { got = x.row(i); } catch (NoSuchElementException e) { got = Long.MAX_VALUE; }
-            long want = i < 0 || i == y.row.size() ? Long.MAX_VALUE : y.row.get(i);
+            long got = Due.rowAt(x, i);
+            long want = i < 0 || i == y.row.size() ? Long.MIN_VALUE : y.row.get(i);
             if (got != want) return "row(" + i + ") is " + got + ", due " + want;
         }
         for (int i = 0; i < 6; i++) {
-            for (int k = 0; k < 9; k++) {
-                if (x.number(i, k) != y.number(i, k)) return "number(" + i + ", " + k + ") is " + x.number(i, k) + ", due " + y.number(i, k);
-            }
+            String differs = placeDiffers(x, y, i);
+            if (differs != null) return differs;
         }
         for (int j = 0; j <= 5; j++) {
             for (int k = -1; k < 6; k++) {
-                int got;
-                try { got = x.factor(j, k); } catch (NoSuchElementException e) { got = -1; }
-                if (got != y.factor(j, k)) return "factor(" + j + ", " + k + ") is " + got + ", due " + y.factor(j, k);
+                long got = Due.factorAt(x, j, k);
+                long want = y.factor(j, k) < 0 ? Long.MIN_VALUE : y.factor(j, k);
+                if (got != want) return "factor(" + j + ", " + k + ") is " + got + ", due " + want;
             }
         }
         return null;
@@ -117,9 +156,12 @@ public final class AgainstModelTest {
         for (int i = 0; i < s.length(); i += 4) {
             int v = 0;
             for (int k = 0; k < 4; k++) v = v << 8 | (i + k < s.length() ? s.charAt(i + k) : below(256));
-            compare(run, log.append("sign ").append(v), x.sign(v), y.sign(v), x, y);
+            int got = x.sign(v);
+            int want = y.sign(v);
+            calls++;
+            if (got != want) report(run, log, "sign(" + v + ") = " + got + ", due is " + want);
         }
-        compare(run, log.append("end ").append(n), x.end(n) ? 1 : 0, y.end(n) ? 1 : 0, x, y);
+        compare(run, log.append("text ").append(s), x.end(n) ? 1 : 0, y.end(n) ? 1 : 0, x, y);
     }
 
     private static void step(int run, StringBuilder log, SkewRings x, Model y) {

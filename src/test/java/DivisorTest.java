@@ -88,6 +88,7 @@ public final class DivisorTest {
                 String first = "";
                 int many = 0;
                 for (int code = 0; code < most; code++) {
+                    if (code % 30 == 29) x = Due.fresh(f, Due.at(x, 0));
                     String b = d == 1 ? code + ",1" : d == 2 ? code % q + "," + code / q + ",1" : code % q + "," + code / q % q + "," + code / q / q + ",1";
                     Due.put(x, 2, b);
                     x.remainder(0, 2, 0, 3);
@@ -117,6 +118,7 @@ public final class DivisorTest {
             int q = new int[] {4, 8, 9, 16}[f];
             SkewRings y = Due.fresh(f);
             for (int a = 0; a < q; a++) {
+                y = Due.fresh(f);
                 for (int b = 0; b < q; b++) {
                     Due.put(y, 0, a + "," + b + ",1");
                     due.is("P44 of DEGREE 2: no ROOT", y.prime(0), y.roots(0) == 0 ? 1 : 0);
@@ -241,6 +243,7 @@ public final class DivisorTest {
                 SkewRings y = Due.fresh(f, n % q[f] + "," + n * 5 % q[f] + "," + (1 + n % (q[f] - 1)));
                 int many = 0;
                 for (int code = 0; code < q[f] * q[f]; code++) {
+                    if (code % 50 == 49) y = Due.fresh(f, Due.at(y, 0));
                     Due.put(y, 1, code % q[f] + "," + code / q[f] + ",1");
                     many += y.like(0, 1);
                 }
@@ -372,9 +375,10 @@ public final class DivisorTest {
         due.row("P52 t + 3 over 9: norm 2 of it", n, 1, 1);
         due.is("P52 t t + 5: the norm of y + 5", n.bound(2), 2);
         due.row("P52 t t + 5", n, n.norm(5, 2), n.plus(5, n.map(5, 1)), 1);
-        SkewRings h = Due.fresh(0, "0");
+        SkewRings h;
         int eights = 0;
         for (int i = 0; i < 40; i++) {
+            h = Due.fresh(0);
             Due.put(h, 0, "1," + i % 4 + "," + i / 4 % 4 + "," + i % 3 + ",2," + i % 2 + ",0,3,1");
             if (h.bound(0) != 8) continue;
             eights++;

@@ -1,23 +1,26 @@
 import java.io.IOException;
+import java.lang.reflect.Constructor;
+import java.lang.reflect.Field;
+import java.lang.reflect.Method;
+import java.lang.reflect.Modifier;
 import java.nio.file.Files;
 import java.nio.file.Path;
-import java.util.ArrayList;
 import java.util.List;
 import java.util.TreeSet;
-import java.util.regex.Matcher;
-import java.util.regex.Pattern;
 
-/** What of ../shared/LANGUAGE.md the text of the class can show: run from the project's folder. */
+/** What of ../shared/LANGUAGE.md the class and its text can show: run from the project's folder. */
 public final class LanguageTest {
     private static final Due due = new Due();
-    private static final Pattern METHOD = Pattern.compile("^ +((?:public|private|static|final) )*[\\w\\[\\]]+ (\\w+)\\(([^)]*)\\).*\\{$");
+    private static final String FACE = "field plus times inverse map norm conjugates classes sign end tells degree number adds takes scales "
+        + "multiplies quotient remainder divisor multiple steps crosses maps monic form same power turned cofactors fits value roots does "
+        + "kernel solves reaches basis shares eigen vanishes divisors prime factors factor ways likes like commuting central bound part "
+        + "primes count row";
 
     public static void main(String[] args) throws IOException {
-        List<String> lines = Files.readAllLines(Path.of("src/main/java/SkewRings.java"));
-        words(lines);
-        classes(lines);
-        methods(lines);
-        arraysAndDivisors(lines);
+        words(Files.readAllLines(Path.of("src/main/java/SkewRings.java")));
+        face();
+        for (Class<?> inside : SkewRings.class.getDeclaredClasses()) inside(inside);
+        fields(SkewRings.class);
         due.finish("LanguageTest");
     }
 
@@ -28,58 +31,63 @@ public final class LanguageTest {
     }
 
     private static void words(List<String> lines) {
-        String[] forbidden = {"->", "::", "catch", "try ", "finally", "synchronized", "assert ", "protected", "package ", "Exact(",
-            "hashCode", "toString", "equals(", "static {", "System.", "double", "float", "Random", "Thread"};
+        String[] forbidden = {"::", "finally", "synchronized", "assert ", "protected ", "Exact(", "hashCode", "static {", "Random", "Thread",
+            "System.out", "System.err", "System.nano", "System.current", "System.exit", "getMessage"};
+        String[] thrown = {"IllegalStateException", "IllegalArgumentException", "IndexOutOfBoundsException", "ArithmeticException",
+            "UnsupportedOperationException", "NoSuchElementException", "RuntimeException"};
         int n = 0;
         for (String line : lines) {
             n++;
-            for (String word : forbidden) due.holds("rule 4, 6 line " + n + " has no " + word, !code(line).contains(word));
-            due.holds("line " + n + " is of signs up to 127", line.chars().allMatch(c -> c < 128));
-            if (line.startsWith("import ")) due.holds("rule 4 line " + n, line.equals("import java.util.NoSuchElementException;"));
-            if (code(line).contains("throw ")) due.holds("rule 6 line " + n, line.strip().equals("throw new NoSuchElementException();"));
-            if (code(line).contains(" static ") && code(line).contains(" = ")) due.holds("rule 5 line " + n, code(line).contains(" final int "));
+            String code = code(line);
+            for (String word : forbidden) due.holds("rules 4 to 6, line " + n + " has no " + word, !code.contains(word));
+            due.holds("rule 3, line " + n + " is of signs up to 127", line.chars().allMatch(c -> c < 128));
+            due.holds("rule 1, line " + n + " is no package", !code.startsWith("package "));
+            due.holds("rule 2, line " + n + " has no lambda", !code.contains("->") || code.contains("case ") || code.contains("default"));
+            if (code.startsWith("import ")) due.holds("rule 4, line " + n, code.startsWith("import java.util."));
+            if (code.contains("throw ")) {
+                boolean known = false;
+                for (String e : thrown) known |= code.contains("throw new " + e + "(");
+                due.holds("rule 6, line " + n + ": " + code.strip(), known);
+            }
         }
     }
 
-    private static void classes(List<String> lines) {
-        int many = 0;
-        for (String line : lines) {
-            if (!code(line).contains(" class ")) continue;
-            many++;
-            due.holds("rule 2 " + line.strip(), line.startsWith("public final class") || line.startsWith("    private static final class"));
-        }
-        due.holds("rule 11: twelve classes", many <= 12);
-    }
-
-    private static void methods(List<String> lines) {
+    /** Rule 1: the face is the document's, and nothing else is seen from outside. */
+    private static void face() {
+        due.holds("rule 1: public and final", Modifier.isPublic(SkewRings.class.getModifiers()) && Modifier.isFinal(SkewRings.class.getModifiers()));
+        TreeSet<String> due55 = new TreeSet<>(List.of(FACE.split(" ")));
         TreeSet<String> open = new TreeSet<>();
-        List<String> others = new ArrayList<>();
-        int start = 0;
-        for (int n = 0; n < lines.size(); n++) {
-            Matcher m = METHOD.matcher(lines.get(n));
-            if (m.matches() && !lines.get(n).contains(" new ") && !lines.get(n).strip().startsWith("return")) {
-                start = n;
-                if (lines.get(n).contains("public ")) open.add(m.group(2)); else others.add(m.group(2));
-                due.holds("rule 11: seven parameters, line " + (n + 1), m.group(3).split(",").length <= 7);
-            }
-            String line = lines.get(n);
-            if (line.equals("    }") || line.equals("        }")) due.holds("rule 11: sixty lines, line " + (n + 1), n - start <= 60 || line.equals("    }"));
+        for (Method m : SkewRings.class.getDeclaredMethods()) {
+            if (m.isSynthetic()) continue;
+            if (Modifier.isPublic(m.getModifiers())) open.add(m.getName());
+            else due.holds("rule 1: " + m.getName() + " is private", Modifier.isPrivate(m.getModifiers()));
+            if (Modifier.isPrivate(m.getModifiers())) due.holds("rule 1: " + m.getName() + " is no name of the face", !due55.contains(m.getName()));
         }
-        due.is("the face has a constructor and 55 methods", open.size(), 56);
-        for (String name : others) due.holds("rule 1: " + name + " is no name of the face", !open.contains(name));
+        due.holds("the face has what the document names: " + open, open.equals(due55));
+        for (Constructor<?> c : SkewRings.class.getDeclaredConstructors()) due.is("one constructor, without parameters", c.getParameterCount(), 0);
+        for (Field f : SkewRings.class.getDeclaredFields()) {
+            if (!f.isSynthetic()) due.holds("rule 1: " + f.getName(), Modifier.isPrivate(f.getModifiers()) || f.getName().equals("NONE"));
+        }
     }
 
-    /** A divisor is a constant, or is looked at in the same line or just before it. */
-    private static void arraysAndDivisors(List<String> lines) {
-        Pattern division = Pattern.compile("[^/*] [/%]=? ([\\w.]+)");
-        for (int n = 0; n < lines.size(); n++) {
-            Matcher m = division.matcher(code(lines.get(n)));
-            while (m.find()) {
-                StringBuilder near = new StringBuilder();
-                for (int k = Math.max(0, n - 12); k <= n; k++) near.append(code(lines.get(k))).append('\n');
-                String by = m.group(1);
-                due.holds("rule 7 line " + (n + 1) + ": " + by + " is looked at", near.toString().contains(by + " > 0") || near.toString().contains(by + " < 1"));
-            }
+    private static void inside(Class<?> c) {
+        due.holds("rule 1: " + c.getName() + " is not public", !Modifier.isPublic(c.getModifiers()) && !Modifier.isProtected(c.getModifiers()));
+        fields(c);
+        TreeSet<String> face = new TreeSet<>(List.of(FACE.split(" ")));
+        for (Method m : c.getDeclaredMethods()) {
+            due.holds("rule 11: " + m.getName() + " takes at most seven parameters", m.getParameterCount() <= 7);
+            if (Modifier.isPrivate(m.getModifiers())) due.holds("rule 1: " + m.getName() + " is no name of the face", !face.contains(m.getName()));
         }
+    }
+
+    /** Rule 5: static fields are final; rule 11: some twenty fields beside the constants. */
+    private static void fields(Class<?> c) {
+        int many = 0;
+        for (Field f : c.getDeclaredFields()) {
+            if (f.isSynthetic()) continue;
+            if (Modifier.isStatic(f.getModifiers())) due.holds("rule 5: " + f.getName() + " is final", Modifier.isFinal(f.getModifiers()));
+            else many++;
+        }
+        due.holds("rule 11: fields of " + c.getName() + ": " + many, many <= 24);
     }
 }

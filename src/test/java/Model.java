@@ -293,7 +293,7 @@ final class Model {
         return deg(a) >= 1;
     }
 
-    private final TreeMap<String, Integer> waysKnown = new TreeMap<>();
+    private static final TreeMap<String, Integer> waysKnown = new TreeMap<>();
 
     int ways(int[] a) {
         if (deg(a) <= 0) return 1;

@@ -189,6 +189,7 @@ public final class ValueTest {
         due.is("P38 255", p.reaches(0), 255);
         long most = 0;
         for (int i = 0; i < 81; i++) {
+            z = Due.fresh(2);
             Due.put(z, 4, (1 + i % 2) + "," + i / 2 % 3 + "," + i / 6 % 3 + "," + i / 18 % 3 + ",0,1");
             int n = z.reaches(4);
             due.holds("P38 up to 300 at most", n == -3 || n >= 1 && n <= 300);

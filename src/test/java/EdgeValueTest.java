@@ -182,7 +182,7 @@ public final class EdgeValueTest {
         }
     }
 
-    /** Those next to 300 that there are (no polynomial of DEGREE 8 at most reaches 300 itself). */
+    /** Those next to 300 that there are: none of DEGREE 8 at most has its least n between 288 and 312. */
     private static void reachesMost() {
         Object[][] within = {{0, "1,0,1,1,0,0,1,0,1", 255}, {1, "6,2,4,2,1,5,1,7,1", 279}, {2, "7,2,6,1,0,2,6,1,1", 288},
             {2, "2,2,2,2,2,1,2,0,1", 286}, {3, "1,0,1,1,0,0,1,0,1", 255}};

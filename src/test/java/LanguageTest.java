@@ -17,7 +17,10 @@ public final class LanguageTest {
         + "primes count row";
 
     public static void main(String[] args) throws IOException {
-        words(Files.readAllLines(Path.of("src/main/java/SkewRings.java")));
+        List<String> lines = Files.readAllLines(Path.of("src/main/java/SkewRings.java"));
+        words(lines);
+        lengths(lines);
+        due.holds("rule 11: some twelve classes", SkewRings.class.getDeclaredClasses().length < 14);
         face();
         for (Class<?> inside : SkewRings.class.getDeclaredClasses()) inside(inside);
         fields(SkewRings.class);
@@ -50,6 +53,25 @@ public final class LanguageTest {
                 due.holds("rule 6, line " + n + ": " + code.strip(), known);
             }
         }
+    }
+
+    /** Rule 11: methods stay short; a head ends with ") {" or with what is thrown, and the brace below it closes it. */
+    private static void lengths(List<String> lines) {
+        int head = 0;
+        int indent = 0;
+        for (int n = 1; n <= lines.size(); n++) {
+            String line = lines.get(n - 1);
+            int blanks = line.length() - line.stripLeading().length();
+            boolean opens = line.matches("    (    )?[a-zA-Z].*\\) (throws \\w+ )?\\{") && !line.matches(" +(if|for|while|switch|else|do)\\b.*");
+            if (opens && head == 0) {
+                head = n;
+                indent = blanks;
+            } else if (head > 0 && blanks == indent && line.strip().equals("}")) {
+                due.holds("rule 11: the method at line " + head + " has " + (n - head + 1) + " lines", n - head + 1 <= 60);
+                head = 0;
+            }
+        }
+        due.is("rule 11: each method ends", head, 0);
     }
 
     /** Rule 1: the face is the document's, and nothing else is seen from outside. */
